@@ -432,6 +432,12 @@ public final class TuneBench {
         private Row() {
         }
 
+        static void makeOne(int[] row) {
+            for (int k = 0; k < PRIME_COUNT; k++) {
+                row[k] = 0;
+            }
+        }
+
         static void copy(int[] from, int[] to) {
             System.arraycopy(from, 0, to, 0, PRIME_COUNT);
         }
@@ -866,8 +872,9 @@ public final class TuneBench {
             return count >= ROOM;
         }
 
+        /** Leaves ONE alone. */
         void restart() {
-            Row.combine(rows[0], rows[0], -1, rows[0]);
+            Row.makeOne(rows[0]);
             count = 1;
         }
 

@@ -34,9 +34,24 @@ public final class RandomRunsTest {
 
     private void run() {
         int style = seed % 4;
+        if (seed % 3 != 0) {
+            prepare(style);
+        }
         for (calls = 0; calls < 256; calls++) {
             one(style);
         }
+    }
+
+    /** Full shelves and a scale, so that fewer calls are refused at once. */
+    private void prepare(int style) {
+        for (int s = 0; s < 16; s++) {
+            int[] e = exponents(style);
+            due("set " + s, bench.set(s, e[0], e[1], e[2], e[3], e[4], e[5]), model.set(s, e));
+        }
+        int octaves = seed % 5 == 0 ? 3 : 1;
+        due("ratio 0", bench.ratio(0, octaves * 2, 1), model.ratio(0, octaves * 2, 1));
+        due("ratio 1", bench.ratio(1, 3, 2), model.ratio(1, 3, 2));
+        due("begin 0", bench.begin(0), model.begin(0));
     }
 
     private int pick(int n) {
