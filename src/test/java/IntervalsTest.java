@@ -220,6 +220,16 @@ public final class IntervalsTest {
         CHECK.due("the greatest into 2 is far", x.fold(6, 0, 2), false, x, 4);
         CHECK.due("the greatest into itself", x.fold(6, 6, 2), true, x, 0);
         CHECK.due("show", Check.shown(x, 2), "1/1");
+        x.set(8, 24, 24, 0, 0, 0, 0);
+        x.set(1, 12, -5, 0, 0, 0, 0);
+        CHECK.due("no other power is near", x.fold(1, 8, 2), true, x, 0);
+        CHECK.due("exponent of 2", x.exponent(2, 0), 12, x, 0);
+        CHECK.due("exponent of 3", x.exponent(2, 1), -5, x, 0);
+        x.ratio(8, 5, 1);
+        x.set(1, -24, 24, 0, 0, 0, 0);
+        CHECK.due("24 and -24 of other primes", x.fold(1, 8, 2), true, x, 0);
+        CHECK.due("exponent of 2", x.exponent(2, 0), -24, x, 0);
+        CHECK.due("exponent of 5", x.exponent(2, 2), -6, x, 0);
         x.set(7, -24, -24, -24, -24, -24, -24);
         CHECK.due("the least into the greatest", x.fold(7, 6, 2), true, x, 0);
         CHECK.due("show", Check.shown(x, 2), "1/1");

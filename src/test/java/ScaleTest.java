@@ -87,11 +87,20 @@ public final class ScaleTest {
         CHECK.due("1/4 is ONE", x.note(4), -1, x, 8);
         x.set(4, 0, 24, 0, 0, 0, 0);
         CHECK.due("3^24 is far", x.note(4), -1, x, 4);
+        x.set(4, 0, -24, 0, 0, 0, 0);
+        CHECK.due("3^-24 is far", x.note(4), -1, x, 4);
         CHECK.due("1", x.note(-1), -1, x, 1);
         CHECK.due("2", x.note(9), -1, x, 2);
         dueNotes("notes", x, "1/1", "9/8", "3/2", "8/5", "2/1");
         x.ratio(1, 7, 1);
         dueNotes("a note is not its shelf", x, "1/1", "9/8", "3/2", "8/5", "2/1");
+        x.ratio(0, 5, 4);
+        x.begin(0);
+        x.ratio(1, 81, 1);
+        CHECK.due("81 by (5/4)^-19 is far: 2^38", x.note(1), -1, x, 4);
+        x.ratio(1, 1, 81);
+        CHECK.due("1/81 by (5/4)^20 is far: 2^-40", x.note(1), -1, x, 4);
+        dueNotes("nothing came", x, "1/1", "5/4");
     }
 
     private static void noteUntilFull() {
@@ -133,6 +142,10 @@ public final class ScaleTest {
         x.ratio(3, 18, 1);
         CHECK.due("lay 18 in 3", x.lay(1, 3, 24), true, x, 0);
         CHECK.due("notes", x.scale(0), 24, x, 0);
+        x.ratio(3, 27, 25);
+        CHECK.due("lay 27/25 in 2, to 3^24", x.lay(0, 3, 9), true, x, 0);
+        x.ratio(3, 25, 27);
+        CHECK.due("lay 25/27 in 2, to 3^-24", x.lay(0, 3, 9), true, x, 0);
         x.ratio(4, 1, 1);
         CHECK.due("lay ONE once", x.lay(0, 4, 1), true, x, 0);
         dueNotes("one", x, "1/1", "2/1");
@@ -146,6 +159,10 @@ public final class ScaleTest {
         x.ratio(4, 4, 1);
         x.set(5, 0, 9, 0, 0, 0, 0);
         CHECK.due("3^16 is far", x.lay(0, 1, 17), false, x, 4);
+        x.ratio(8, 27, 25);
+        CHECK.due("3^27 is far, without an octave", x.lay(0, 8, 10), false, x, 4);
+        x.ratio(8, 25, 27);
+        CHECK.due("3^-27 is far", x.lay(0, 8, 10), false, x, 4);
         CHECK.due("2 in 4, 24", x.lay(4, 0, 24), false, x, 8);
         x.set(6, 24, 0, 0, 0, 0, 0);
         x.set(7, 12, 0, 0, 0, 0, 1);
