@@ -28,7 +28,7 @@ final class Model {
     }
 
     static boolean beyond(int[] a, int limit) {
-        return Arrays.stream(a).anyMatch(e -> Math.abs(e) > limit);
+        return Arrays.stream(a).anyMatch(e -> e < -limit || e > limit);
     }
 
     static boolean far(int[] a) {
