@@ -2,7 +2,7 @@ import java.util.Map;
 
 /**
  * Asks one call at an edge: on a new object that a recipe furnishes, its answer, its STATUS, and, part by part (see
- * State), all that it must leave as it was.
+ * State), all that it must leave as it was. A call that changes nothing is asked twice.
  */
 final class Edge {
     /** Numbers that are no shelf. */
@@ -78,6 +78,10 @@ final class Edge {
         TuneBench x = furnished(recipe, status);
         check.due(told, call.on(x), want);
         check.due("STATUS behind " + told, x.status(), status);
+        if (part == null) {
+            check.due("the same again: " + told, call.on(x), want);
+            check.due("STATUS behind the same again: " + told, x.status(), status);
+        }
         Map<String, String> found = State.of(x);
         for (String name : due.keySet()) {
             check.due(name + " behind " + told, found.get(name), due.get(name));

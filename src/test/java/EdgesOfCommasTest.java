@@ -191,6 +191,7 @@ public final class EdgesOfCommasTest {
         EDGE.tells("2^24, 2^18, 2^-20", commas(new int[] {24, 0, 0, 0, 0, 0}, new int[] {18, 0, 0, 0, 0, 0},
             new int[] {-20, 0, 0, 0, 0, 0}), x -> x.twist(), 2);
         EDGE.tells("one comma, each prime counts", commas(new int[] {24, 0, 0, 0, 0, 18}), x -> x.twist(), 6);
+        EDGE.tells("2^2 13^3", commas(new int[] {2, 0, 0, 0, 0, 3}), x -> x.twist(), 1);
         EDGE.tells("2^2, 3^2", commas(new int[] {2, 0, 0, 0, 0, 0}, new int[] {0, 2, 0, 0, 0, 0}), x -> x.twist(), 4);
         EDGE.tells("2^2, 3^2, 6", commas(new int[] {2, 0, 0, 0, 0, 0}, new int[] {0, 2, 0, 0, 0, 0},
             new int[] {1, 1, 0, 0, 0, 0}), x -> x.twist(), 2);

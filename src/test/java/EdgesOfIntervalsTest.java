@@ -26,6 +26,8 @@ public final class EdgesOfIntervalsTest {
         timesOrder();
         foldIntoOneOrBelow();
         foldFar();
+        foldFarByBothPrimesOfThePeriod();
+        foldFarByThePrimeBelow();
         foldOntoItself();
         foldOrder();
         dropTwice();
@@ -251,6 +253,43 @@ public final class EdgesOfIntervalsTest {
         EDGE.does("the least into the greatest", tiny, y -> y.fold(13, 12, FREE), FREE_SHELF, "1/1");
         EDGE.does("the least period into the greatest", tiny, y -> y.fold(11, 12, FREE), FREE_SHELF, nearest());
         EDGE.does("ONE into the least period", tiny, y -> y.fold(UNISON, 11, FREE), FREE_SHELF, "1/1");
+    }
+
+    // Promise 6, 4, in the period 3/2, which lifts 2 as it lowers 3: 11^2 13^2 is 24 of them and a part, 11^4 is 23.
+    private static void foldFarByBothPrimesOfThePeriod() {
+        Edge.Recipe recipe = x -> {
+            Benches.furnished(x);
+            x.set(11, 0, 0, 0, 0, 2, 2);
+            x.set(12, 0, 0, 0, 4, 1, 0);
+            x.set(13, 0, 0, 0, 0, -4, 0);
+            x.set(14, 0, 0, 0, 0, -2, -2);
+        };
+        EDGE.does("2^24 3^-24", recipe, x -> x.fold(11, FIFTH, FREE), FREE_SHELF, State.ratio(24, -24, 0, 0, 2, 2));
+        EDGE.denies("2^25 3^-25", recipe, x -> x.fold(12, FIFTH, FREE), 4);
+        EDGE.does("2^-24 3^24", recipe, x -> x.fold(13, FIFTH, FREE), FREE_SHELF, State.ratio(-24, 24, 0, 0, -4, 0));
+        EDGE.denies("2^-25 3^25", recipe, x -> x.fold(14, FIFTH, FREE), 4);
+        Edge.Recipe begun = x -> {
+            recipe.furnish(x);
+            x.times(11, OCTAVE, 1, 11);
+            x.times(13, OCTAVE, -1, 13);
+        };
+        EDGE.denies("2^27 3^-26", begun, x -> x.fold(11, FIFTH, FREE), 4);
+        EDGE.denies("2^-27 3^26", begun, x -> x.fold(13, FIFTH, FREE), 4);
+    }
+
+    // Promise 6, 4, in the period 9/8, where 2, which it has below, grows faster than 3: 8 of them are 2^-24.
+    private static void foldFarByThePrimeBelow() {
+        Edge.Recipe recipe = x -> {
+            Benches.furnished(x);
+            x.ratio(11, 9, 8);
+            x.ratio(12, 13, 5);
+            x.ratio(13, 3, 7);
+            x.ratio(14, 5, 13);
+        };
+        EDGE.does("2^24", recipe, x -> x.fold(12, 11, FREE), FREE_SHELF, State.ratio(24, -16, -1, 0, 0, 1));
+        EDGE.denies("2^27", recipe, x -> x.fold(Benches.TWELFTH, 11, FREE), 4);
+        EDGE.does("2^-24", recipe, x -> x.fold(13, 11, FREE), FREE_SHELF, State.ratio(-24, 17, 0, -1, 0, 0));
+        EDGE.denies("2^-27", recipe, x -> x.fold(14, 11, FREE), 4);
     }
 
     private static String nearest() {

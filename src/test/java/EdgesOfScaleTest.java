@@ -32,6 +32,7 @@ public final class EdgesOfScaleTest {
         layTwoTheSame();
         layOrder();
         layWithoutAScaleBefore();
+        theScaleThatWasStays();
         takeFrom0ToN();
         takeOrder();
         scaleFrom0To4();
@@ -199,6 +200,21 @@ public final class EdgesOfScaleTest {
             "1/1 5/4 4/3 3/2 " + State.ratio(24, 0, -10, 0, 0, 0) + " 2/1");
         EDGE.refuses("2^25", withRow(0, -1, -10, 0, 0, 0), x -> x.note(11), 4);
         EDGE.refuses("3^24", Benches::furnished, x -> x.note(HIGH), 4);
+        // In the period 9/8 eight of them are 2^-24.
+        Edge.Recipe tone = x -> {
+            Benches.plain(x);
+            x.ratio(11, 9, 8);
+            x.begin(11);
+            x.ratio(12, 13, 5);
+            x.ratio(13, 3, 7);
+            x.ratio(14, 5, 13);
+        };
+        EDGE.changes("2^24 in 9/8", tone, x -> x.note(12), 1, "scale",
+            "1/1 " + State.ratio(24, -16, -1, 0, 0, 1) + " 9/8");
+        EDGE.refuses("2^27 in 9/8", tone, x -> x.note(TWELFTH), 4);
+        EDGE.changes("2^-24 in 9/8", tone, x -> x.note(13), 1, "scale",
+            "1/1 " + State.ratio(-24, 17, 0, -1, 0, 0) + " 9/8");
+        EDGE.refuses("2^-27 in 9/8", tone, x -> x.note(14), 4);
     }
 
     // Promise 21: "(1, 2, 7, 4, 8, 6: asked in this order)".
@@ -337,6 +353,46 @@ public final class EdgesOfScaleTest {
         EDGE.denies("lay, 5", Benches::plain, x -> x.lay(UNISON, FIFTH, 2), 5);
         EDGE.denies("lay, 4", Benches::plain, x -> x.lay(OCTAVE, FIFTH, 17), 4);
         EDGE.denies("lay, 8", Benches::plain, x -> x.lay(OCTAVE, UNISON, 2), 8);
+    }
+
+    // Promise 22: "the SCALE that was stays with these": also where it was laid or turned itself, or has 24 notes.
+    private static void theScaleThatWasStays() {
+        Edge.Recipe laid = x -> {
+            Benches.furnished(x);
+            x.set(11, 23, 0, 0, 0, 0, 0);
+            x.set(12, 0, 0, 0, 0, 0, 24);
+            x.lay(OCTAVE, FIFTH, 7);
+        };
+        Edge.Recipe turned = x -> {
+            laid.furnish(x);
+            x.mode(3);
+        };
+        Edge.Recipe turnedTwice = x -> {
+            turned.furnish(x);
+            x.mode(1);
+        };
+        Edge.Recipe full = x -> {
+            laid.furnish(x);
+            x.lay(TWELFTH, OCTAVE, 24);
+        };
+        for (Edge.Recipe recipe : Arrays.asList(laid, turned, turnedTwice, full)) {
+            EDGE.denies("lay, 4 at last", recipe, x -> x.lay(OCTAVE, FIFTH, 17), 4);
+            EDGE.denies("lay, 4 at once", recipe, x -> x.lay(OCTAVE, HIGH, 24), 4);
+            EDGE.denies("lay, 8 at last", recipe, x -> x.lay(11, OCTAVE, 24), 8);
+            EDGE.denies("lay, 8 at once", recipe, x -> x.lay(TWELFTH, TWELFTH, 24), 8);
+            EDGE.denies("lay, 5", recipe, x -> x.lay(FALLING, FIFTH, 2), 5);
+            EDGE.denies("lay, 3", recipe, x -> x.lay(TWELFTH, FIFTH, 25), 3);
+            EDGE.refuses("note, 8", recipe, x -> x.note(UNISON), 8);
+            EDGE.refuses("note, 4", recipe, x -> x.note(12), 4);
+        }
+        Edge.Recipe steepBehindMode = x -> {
+            Benches.scaled(x, row(4, 0), row(-1, 1), row(24, -14), row(3, 0));
+            x.mode(2);
+            x.mode(0);
+        };
+        EDGE.denies("mode, 4 behind mode", steepBehindMode, x -> x.mode(3), 4);
+        EDGE.does("mode behind mode", steepBehindMode, x -> x.mode(2), "scale",
+            Benches.scaleText(row(4, 0), row(-1, 1), row(24, -14), row(3, 0)));
     }
 
     // Promise 23: "NOTE i (0 .. n, else 3)".
