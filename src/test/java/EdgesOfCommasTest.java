@@ -167,6 +167,8 @@ public final class EdgesOfCommasTest {
         EDGE.tells("five of two primes", commas(new int[] {1, 0, 0, 0, 0, 0}, new int[] {0, 1, 0, 0, 0, 0},
             new int[] {1, 1, 0, 0, 0, 0}, new int[] {2, -1, 0, 0, 0, 0}, new int[] {24, 24, 0, 0, 0, 0}),
             x -> x.rank(), 2);
+        EDGE.tells("a product, where 2 is to the power -1", commas(new int[] {-1, 1, 0, 0, 0, 0},
+            new int[] {-1, 2, 1, 0, 0, 0}, new int[] {-2, 3, 1, 0, 0, 0}), x -> x.rank(), 2);
         EDGE.tells("a product by half powers", commas(new int[] {2, 0, 0, 0, 0, 0}, new int[] {0, 2, 0, 0, 0, 0},
             new int[] {1, 1, 0, 0, 0, 0}), x -> x.rank(), 2);
     }
@@ -263,6 +265,23 @@ public final class EdgesOfCommasTest {
         EDGE.tells("a sixth", large, x -> x.vanishes(14), 0);
         EDGE.tells("2, which they make", large, x -> x.vanishes(Benches.OCTAVE), 1);
         EDGE.tells("3, which they do not", large, x -> x.vanishes(Benches.TWELFTH), 0);
+        int[][] crooked = new int[5][6];
+        for (int i = 0; i < 5; i++) {
+            for (int k = 0; k < 6; k++) {
+                crooked[i][k] = (7 * i + 5) * (k + 3) * (k + i + 1) % 49 - 24;
+            }
+        }
+        EDGE.tells("crooked ones: rank", commas(crooked), x -> x.rank(), 5);
+        for (int[] e : crooked) {
+            Edge.Recipe recipe = x -> {
+                commas(crooked).furnish(x);
+                x.set(11, e[0], e[1], e[2], e[3], e[4], e[5]);
+                x.set(12, -e[0], -e[1], -e[2], -e[3], -e[4], -e[5]);
+            };
+            EDGE.tells("a crooked one", recipe, x -> x.vanishes(11), 1);
+            EDGE.tells("its opposite", recipe, x -> x.vanishes(12), 1);
+            EDGE.tells("beside them", recipe, x -> x.vanishes(Benches.OCTAVE), 0);
+        }
     }
 
     // Promise 18: "(1, 2)".

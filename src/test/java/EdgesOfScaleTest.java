@@ -215,6 +215,25 @@ public final class EdgesOfScaleTest {
         EDGE.changes("2^-24 in 9/8", tone, x -> x.note(13), 1, "scale",
             "1/1 " + State.ratio(-24, 17, 0, -1, 0, 0) + " 9/8");
         EDGE.refuses("2^-27 in 9/8", tone, x -> x.note(14), 4);
+        noteFarByOnePrimeOfThePeriod();
+    }
+
+    // In the period 3/2, where 3 stays near and 2, which was there, does not.
+    private static void noteFarByOnePrimeOfThePeriod() {
+        Edge.Recipe fifth = x -> {
+            Benches.plain(x);
+            x.begin(FIFTH);
+            x.set(11, 10, -1, 0, 0, 0, 0);
+            x.set(12, 10, 0, 0, 1, 0, -1);
+            x.set(13, -10, 0, 1, 0, 0, 0);
+            x.set(14, -10, 1, 0, 0, 0, 0);
+        };
+        EDGE.changes("2^24 in 3/2", fifth, x -> x.note(11), 1, "scale",
+            "1/1 " + State.ratio(24, -15, 0, 0, 0, 0) + " 3/2");
+        EDGE.refuses("2^25 in 3/2", fifth, x -> x.note(12), 4);
+        EDGE.changes("2^-24 in 3/2", fifth, x -> x.note(13), 1, "scale",
+            "1/1 " + State.ratio(-24, 14, 1, 0, 0, 0) + " 3/2");
+        EDGE.refuses("2^-25 in 3/2", fifth, x -> x.note(14), 4);
     }
 
     // Promise 21: "(1, 2, 7, 4, 8, 6: asked in this order)".
