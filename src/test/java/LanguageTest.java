@@ -1,3 +1,4 @@
+import java.lang.reflect.Array;
 import java.lang.reflect.Constructor;
 import java.lang.reflect.Field;
 import java.lang.reflect.Member;
@@ -5,7 +6,11 @@ import java.lang.reflect.Method;
 import java.lang.reflect.Modifier;
 import java.nio.file.Files;
 import java.nio.file.Path;
+import java.util.ArrayDeque;
 import java.util.Arrays;
+import java.util.Collections;
+import java.util.Deque;
+import java.util.IdentityHashMap;
 import java.util.Set;
 import java.util.TreeSet;
 import java.util.regex.Matcher;
@@ -26,6 +31,8 @@ public final class LanguageTest {
     public static void main(String[] args) throws Exception {
         face();
         insideClasses();
+        sizesOfClasses(TuneBench.class);
+        roomOfAnObject();
         source(Files.readString(Path.of("src/main/java/TuneBench.java")));
         CHECK.finish();
     }
@@ -85,6 +92,71 @@ public final class LanguageTest {
         }
     }
 
+    /** Rule 11: at most seven parameters, some twenty fields. */
+    private static void sizesOfClasses(Class<?> c) {
+        for (Method m : c.getDeclaredMethods()) {
+            CHECK.due("at most seven parameters: " + m, m.getParameterCount() <= 7, true);
+        }
+        long fields = Arrays.stream(c.getDeclaredFields()).filter(f -> !Modifier.isStatic(f.getModifiers())).count();
+        CHECK.due("some twenty fields: " + c, fields <= 20, true);
+        for (Class<?> inside : c.getDeclaredClasses()) {
+            sizesOfClasses(inside);
+        }
+    }
+
+    /** All calls of a run live in one room: a thousand objects must leave three quarters of it. */
+    private static void roomOfAnObject() throws Exception {
+        TuneBench bench = new TuneBench();
+        long[] fresh = room(bench);
+        CHECK.due("objects and arrays: " + fresh[0], fresh[0] <= 150, true);
+        CHECK.due("fields and elements: " + fresh[1], fresh[1] <= 1800, true);
+        Benches.fullOfCommas(bench);
+        bench.lay(Benches.OCTAVE, Benches.FIFTH, 15);
+        bench.mode(3);
+        bench.twist();
+        bench.quotient(Benches.OCTAVE, Benches.FIFTH, 5);
+        long[] used = room(bench);
+        CHECK.due("objects and arrays of a used bench", used[0], fresh[0]);
+        CHECK.due("fields and elements of a used bench", used[1], fresh[1]);
+    }
+
+    /** How many objects and arrays there are, and how many fields and elements they have. */
+    private static long[] room(TuneBench bench) throws Exception {
+        Set<Object> seen = Collections.newSetFromMap(new IdentityHashMap<>());
+        Deque<Object> waiting = new ArrayDeque<>();
+        waiting.add(bench);
+        long elements = 0;
+        while (!waiting.isEmpty()) {
+            Object o = waiting.remove();
+            if (seen.add(o)) {
+                elements += o.getClass().isArray() ? elementsOf(o, waiting) : fieldsOf(o, waiting);
+            }
+        }
+        return new long[] {seen.size(), elements};
+    }
+
+    private static int elementsOf(Object array, Deque<Object> waiting) {
+        int length = Array.getLength(array);
+        for (int i = 0; i < length && !array.getClass().getComponentType().isPrimitive(); i++) {
+            waiting.add(Array.get(array, i));
+        }
+        return length;
+    }
+
+    private static int fieldsOf(Object o, Deque<Object> waiting) throws Exception {
+        int fields = 0;
+        for (Field f : o.getClass().getDeclaredFields()) {
+            if (!Modifier.isStatic(f.getModifiers())) {
+                fields++;
+                f.setAccessible(true);
+                if (!f.getType().isPrimitive() && f.get(o) != null) {
+                    waiting.add(f.get(o));
+                }
+            }
+        }
+        return fields;
+    }
+
     private static void source(String text) {
         String code = text.replaceAll("(?s)/\\*.*?\\*/", "").replaceAll("//[^\n]*", "");
         for (String word : new String[] {"throw", "throws", "try", "catch", "finally", "synchronized", "assert", "import",
@@ -98,6 +170,41 @@ public final class LanguageTest {
         Matcher loop = Pattern.compile("while \\(true|for \\([^;]*;\\s*;").matcher(code);
         CHECK.due("no loop without an end", loop.find(), false);
         objectsInConstructorsAlone(code);
+        libraryAlone(code);
+        shortMethods(text);
+    }
+
+    /** Rule 4: of the library no more than is needed, all of it allowed there. */
+    private static void libraryAlone(String code) {
+        Set<String> allowed = Set.of("Math.abs", "Math.max", "Math.min", "Math.floorDiv", "Integer.bitCount",
+            "System.arraycopy");
+        Matcher use = Pattern.compile("\\b(Math|Integer|Long|System|Arrays|Character|Byte|Short|Boolean)\\.\\w+").matcher(code);
+        while (use.find()) {
+            CHECK.due("allowed: " + use.group(), allowed.contains(use.group()), true);
+        }
+        Set<String> known = new TreeSet<>(Set.of("TuneBench", "Math", "Integer", "System"));
+        for (Class<?> c : TuneBench.class.getDeclaredClasses()) {
+            known.add(c.getSimpleName());
+        }
+        Matcher name = Pattern.compile("\\b[A-Z]\\w*[a-z]\\w*").matcher(code);
+        while (name.find()) {
+            CHECK.due("a class of its own: " + name.group(), known.contains(name.group()), true);
+        }
+    }
+
+    /** Rule 11: methods stay short, some sixty lines. A method ends at the brace that stands below its first sign. */
+    private static void shortMethods(String text) {
+        String[] lines = text.split("\n");
+        for (int first = 0; first < lines.length; first++) {
+            Matcher head = Pattern.compile("( {4}| {8})(\\w.*)?\\w+\\([^()]*\\) \\{").matcher(lines[first]);
+            if (head.matches() && !lines[first].matches(" +(if|for|while|switch|\\}).*")) {
+                int last = first;
+                while (!lines[last].equals(head.group(1) + "}")) {
+                    last++;
+                }
+                CHECK.due("some sixty lines: " + lines[first].trim(), last - first < 60, true);
+            }
+        }
     }
 
     /** What calls make is never given back: rows are made in constructors, and used again. */
